@@ -20,9 +20,9 @@ public final class EventCounters {
     private static final int MOST_SHOWN = 999999;
 
     private final Tape tape = new Tape();
-    private final Reader reader = new Reader(tape);
     private Program now = new Program();
     private Program draft = new Program();
+    private final Reader reader = new Reader(tape, draft);
     private final Kept kept = new Kept();
     private final Bank bank = new Bank();
     private final Turns turns = new Turns();
@@ -604,8 +604,9 @@ public final class EventCounters {
         int fault = 0;
         int faultPlace = 0;
 
-        Reader(Tape tape) {
+        Reader(Tape tape, Program draft) {
             this.tape = tape;
+            this.draft = draft;
         }
 
         void readInto(Program empty) {

@@ -147,6 +147,9 @@ final class CountersTest {
         rounds(z, 255, 0b00010001, 0b00100010, 0b01000100, 0b10001000);
         rounds(z, 0b00011111, 0b00000001, 0b00000010, 0b00000100, 0b00011000);
         rounds(wired("", 255), 0b10100001, 1, 32, 128);
+        // b alone would leave a and c, which go together, but the least EVENT comes first.
+        rounds(wired("", 0b001, 0b110), 0b111, 0b011, 0b100);
+        rounds(wired("", 0b00010001, 0b01100110), 0b01000101, 0b00000101, 0b01000000);
         for (int bad : new int[] {LEAST, -1, 256, GREATEST}) {
             due("20 events", x.rounds(bad, 0), BAD);
         }
@@ -208,6 +211,8 @@ final class CountersTest {
         // The STEPS at 0, 4, 7 are of the SLICES 0, 1, 1.
         scaled(z, 0b11, 4, 0, 13, 4, -3, 4);
         scaled(z, 0b11, 4, 1, 0, 1, 0, 1);
+        // The first one has 1 TICK of 5.
+        scaled(wired("line 1 a1; line 4 a4;", 255), 0b11, 1, 0, 5, 1, 0, 1);
         due("22 no ticks", x.scaled(0b11, 999, 1, 0), NONE_SCALED);
         due("22 no ticks, how far", x.scaled(0b11, 999, 1, 3), NONE_SCALED);
         due("22 an empty program", new EventCounters().scaled(1, 5, 0, 0), NONE_SCALED);
@@ -240,6 +245,8 @@ final class CountersTest {
         EventCounters x = wired(SLOW, 255);
         due("23 of one round the least", x.finest(0b01, 5, 9, 0), 5);
         due("23 one alone", x.finest(0b11, 7, 7, 0), 7);
+        due("23 one TICK is enough", wired("line 1 a1; line 4;", 255).finest(0b11, 1, 1, 0), 1);
+        due("23 the last one", wired("line 5 a1; line 5; line 5; line 5;", 255).finest(0b11, 3, 4, 0), 4);
         due("23 one that has no ticks", x.finest(0b11, 999, 999, 1), NONE);
         due("23 those without ticks are left out", x.finest(0b11, 20, 219, 1), 20);
         due("23 an empty program", new EventCounters().finest(1, 1, 200, 0), NONE);

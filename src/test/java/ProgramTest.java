@@ -115,6 +115,8 @@ final class ProgramTest {
         due("4 in place of it", x.whole(0), 1);
         due("4 no loops", x.count(5), 0);
         due("4 events of the old line are gone", x.line(0, 10), 0);
+        due("4 taken again", Due.tell(x, "line 1;"), 1);
+        due("4 events of the line before that, too", x.whole(10), 0);
         due("4 runs are gone", x.count(2), 0);
         due("4 kept stays", x.beside(0, 1), 9);
         due("4 masks stay", x.count(10), 3);
@@ -153,6 +155,8 @@ final class ProgramTest {
         fault(x, "line 21 #", 3, 5);
         fault(x, "line 1 a a", 2, 9);
         fault(x, "line 1 a1 a#", 4, 10);
+        fault(x, "line 1 b1 b1", 4, 10);
+        fault(x, "line 1 b1 c1 a1 b1", 4, 16);
         fault(x, "line 1 a1 i1", 3, 10);
         fault(x, "end", 2, 0);
         fault(x, "loop 2; end; end;", 2, 13);
@@ -179,6 +183,9 @@ final class ProgramTest {
         fault(x, "lines 1;", 2, 0);
         fault(x, "lin 1;", 2, 0);
         fault(x, "linea 1;", 2, 0);
+        fault(x, "fine 1;", 2, 0);
+        fault(x, "coop 1; end;", 2, 0);
+        fault(x, "loop 1; and;", 2, 8);
         fault(x, "loop 1; line 100;", 1, 13);
         fault(x, "line 1 a100;", 1, 8);
         fault(x, "line 1 a000;", 1, 8);
@@ -197,8 +204,20 @@ final class ProgramTest {
         fault(x, "line 1:", 1, 6);
         due("4 names and numbers need none between", Due.tell(x, "line07a09h99;"), 1);
         due("4 leading naught", x.line(0, 0), 7);
+        cutOff(x, "loop 25;", 6);
+        cutOff(x, "linelines", 4);
+        due("4 a figure that was cut off", Due.tell(x, "line 1;"), 1);
+        due("4 what was cut off is no more", Due.tell(x, "line 07a09h99;"), 1);
         due("4 a09", x.line(0, 10), 9);
         due("4 h99", x.line(0, 17), 99);
+    }
+
+    /** What stands behind the end of THE TAPE is none of it. */
+    private static void cutOff(EventCounters x, String text, int length) {
+        Due.write(x, text);
+        x.end(length);
+        due("4 place in what is left of " + text, x.program(), -10 - length);
+        due("5 fault of what is left of " + text, x.fault(), 2);
     }
 
     private static void bounds() {
@@ -290,6 +309,8 @@ final class ProgramTest {
         ratio(x, 0, 2, 1, 0, 1);
         ratio(x, 1, 2, 1, 99, 2);
         ratio(x, NONE, 0, 1, 3, 5);
+        ratio(Due.with("line 1 a3 b1;"), 0, 0, 1, 3, 1);
+        ratio(Due.with("line 1 a3 b1;"), NONE, 1, 0, 1, 3);
         ratio(x, NONE, 2, 1, 297, 10);
         due("9 no such event made by the line", x.ratio(1, 1, 0, 0), NONE);
         due("9 not made at all", x.ratio(NONE, 0, 7, 1), NONE);
@@ -347,6 +368,9 @@ final class ProgramTest {
         due("11 inner has no such event", x.went(1, 0, 9), 0);
         due("11 never made", x.went(0, 5, 0), 0);
         due("11 never made, told", x.went(0, 5, 1), NONE);
+        EventCounters once = Due.with("loop 1; line 1 a1; end; line 1 a1;");
+        due("11 a loop that tells once, an event each time", once.went(0, 0, 8), 7);
+        due("11 never", once.went(0, 0, 1), 0);
         due("11 most", x.went(0, 0, 1 + 2 * 9999), 9999);
         due("11 too often", x.went(0, 0, 1 + 2 * 10000), NONE);
         EventCounters y = Due.with("loop 99; line 1 a99 b90; end; line 1 b9;");
@@ -385,6 +409,8 @@ final class ProgramTest {
         hot(Due.with("line 1 a1; loop 3; line 1 a1; end;"), 0, 75, 1, 0b10);
         hot(Due.with("line 1 a1; loop 3; line 1 a1; end;"), 0, 76, 2, 0b11);
         hot(Due.with("line1a7;".repeat(16)), 0, 100, 16, 65535);
+        hot(Due.with("line 1; line 1 a1;"), 0, 1, 1, 0b10);
+        hot(Due.with("line 1 a10; line 1 a10; line 1 a40; line 1 a40;"), 0, 90, 3, 0b1101);
         for (int bad : new int[] {LEAST, -1, 0, 101, GREATEST}) {
             due("12 bad share", x.hot(7, bad, 0), BAD);
         }
@@ -438,6 +464,13 @@ final class ProgramTest {
         x.program();
         due("14 lines that are not there now", x.beside(7, 3), 0b01000);
         due("14 the farthest is not there now", x.beside(7, 4), 3);
+        // Rows that were told two texts ago are not of this one.
+        Due.tell(x, "line 1 a9; line 1 a9; line 1 a9; line 1 a9;");
+        x.program();
+        x.keep();
+        Due.tell(x, "line 1 a1;");
+        due("14 lines that there are", x.beside(0, 2), 0b0001);
+        due("14 none else differs", x.beside(0, 4), 0);
         for (int bad : new int[] {LEAST, -1, 8, GREATEST}) {
             due("14 bad event", x.beside(bad, 0), BAD);
         }

@@ -93,6 +93,12 @@ final class SamplesTest {
         samples(x, 5, 1, 0, 0, 0, 0, 0, 0, 0, NONE);
         samples(new EventCounters(), 0, 1, 0, 0, 0, 0, 0, 0, 0, NONE);
         samples(Due.with("line 1 a1; line 1 a2; line 1 a2;"), 0, 1, 0, 0, 5, 0, 7, 0, 0, 1);
+        samples(Due.with("line 1 a3; line 1 a1;"), 0, 3, 0, 0, 1, 0, 0b01, 0b10, 0, 0);
+        // Rows that were told two texts ago are not of this one.
+        EventCounters y = Due.with("line 1 a1; line 1 a1;");
+        y.program();
+        Due.tell(y, "line 1 a1;");
+        samples(y, 0, 2, 0, 0, 0, 0, 0, 0b0001, 0, NONE);
         badSamples("25", (e, p, b, k) -> x.samples(e, p, b, k, 0), BAD);
         for (int bad : new int[] {LEAST, -1, 6, GREATEST}) {
             due("25 what", x.samples(0, 2, 0, 0, bad), BAD);
@@ -111,6 +117,7 @@ final class SamplesTest {
         far(x, 0, 2, 1, 0, 8, 45);
         far(x, 0, 2, 0, 1, 2, 1);
         far(x, 0, 2, 0, 3, 1, 2);
+        far(Due.with("line 1; line 1 a1;"), 0, 1, 0, 0, 0, 1);
         due("26 all are lost", x.far(7, 1, 0, 1, 0), NONE);
         due("26 never made", x.far(5, 1, 0, 0, 1), NONE);
         due("26 too seldom", x.far(0, 10, 0, 0, 0), NONE);
@@ -127,6 +134,8 @@ final class SamplesTest {
         due("27 each one is truest", x.truest(0, 1, 9, 0), 1);
         due("27 of two that are as far the least", x.truest(0, 2, 4, 0), 2);
         due("27 those that show nothing are left out", x.truest(0, 9, 208, 0), 9);
+        due("27 the last one", x.truest(0, 9, 9, 0), 9);
+        due("27 the last one is truest", Due.with("line 1 a3; line 1 a3;").truest(0, 2, 3, 0), 3);
         due("27 none shows something", x.truest(0, 10, 209, 0), NONE);
         due("27 never made", x.truest(5, 1, 200, 0), NONE);
         due("27 all lost", x.truest(7, 1, 200, 1), NONE);
@@ -161,6 +170,7 @@ final class SamplesTest {
         beats(x, 0, 9999, 0, 0b0010, 0b0001, 1111);
         beats(x, 0, 9998, 0, 0b0011, 0, 9998);
         beats(x, 5, 9, 0, 0, 0, 0);
+        beats(Due.with("line 1; line 1 a1;"), 0, 3, 0, 0b10, 0, 3);
         beats(new EventCounters(), 0, 1, 0, 0, 0, 0);
         badSamples("28", (e, p, b, k) -> k == 0 ? x.beats(e, p, b, 0) : BAD, BAD);
         for (int bad : new int[] {LEAST, -1, 3, GREATEST}) {
@@ -244,6 +254,12 @@ final class SamplesTest {
         }
     }
 
+    private static EventCounters ofWidth(String text, int width) {
+        EventCounters x = Due.with(text);
+        x.width(0, width);
+        return x;
+    }
+
     private static void promise31() {
         EventCounters x = Due.with("loop 5; line 4 a3 b4 c8; end; line 4 d7; line 4 d7;");
         x.width(0, 3);
@@ -251,12 +267,13 @@ final class SamplesTest {
         due("31 one step each", x.seldom(0, 1), 4);
         due("31 a step makes too many", x.seldom(0, 2), NONE);
         due("31 two steps at the end", x.seldom(0, 3), 24);
+        due("31 one TICK each alone", ofWidth("line 1 a3; line 1 a3; line 1 a3;", 2).seldom(0, 0), 1);
+        due("31 what was made before is of it", ofWidth("line 20 a1; line 20 a3;", 2).seldom(0, 0), 20);
         due("31 never made", x.seldom(0, 4), 999);
         x.width(0, 4);
         due("31 all in one", x.seldom(0, 0), 999);
         due("31 an empty program", new EventCounters().seldom(0, 0), 999);
-        EventCounters y = Due.with("line 20; line 20; line 20 a3; line 20 a3; line 20;");
-        y.width(0, 2);
+        EventCounters y = ofWidth("line 20; line 20; line 20 a3; line 20 a3; line 20;", 2);
         due("31 greatest of several", y.seldom(0, 0), 60);
         badCounter("31", x, x::seldom);
     }

@@ -202,6 +202,9 @@ final class SheetsTest {
         due("37 above", x.said(3, 2, 0, 0, 3), -21);
         x.lay(3, 1, 999999);
         due("37 just so", x.said(3, 2, 0, 0, 2), 999993);
+        x.sheet(1, 1, 0);
+        due("37 no cells", x.said(1, 1, 0, 0, 0), INDEX);
+        due("37 no cells of another lane", x.said(1, 2, 0, 0, 0), CAST);
         for (int bad : new int[] {LEAST, -1, 4, GREATEST}) {
             due("37 sheet", x.said(bad, 1, 0, 0, 0), BAD);
         }
