@@ -7,11 +7,13 @@ import java.util.Random;
 final class AgainstPlainTest {
     private static final int BAD = EventCounters.BAD, NONE = EventCounters.NONE;
     private final Random random;
-    private final EventCounters x = new EventCounters();
+    private EventCounters x = new EventCounters();
     private final List<Integer> shown = new ArrayList<>();
     private final int[] widths = {8, 8, 8, 8};
     private Plain plain;
     private Plain kept;
+    private String told = "";
+    private String toldThen = "";
 
     private AgainstPlainTest(int seed) throws PlainText.Fault {
         random = new Random(seed);
@@ -50,9 +52,23 @@ final class AgainstPlainTest {
         tell(text(1 + below(16), 1 + below(30)));
         x.keep();
         kept = plain;
+        toldThen = told;
         boolean changed = below(4) != 0;
         if (changed) {
             tell(text(1 + below(16), 1 + below(30)));
+        }
+    }
+
+    /** A new object like the one there was: none is asked more than 512 times. */
+    private void anew() {
+        x = new EventCounters();
+        Due.tell(x, toldThen);
+        x.keep();
+        Due.tell(x, told);
+        x.counters(plain.masks.length);
+        for (int c = 0; c < plain.masks.length; c++) {
+            x.mask(c, plain.masks[c]);
+            x.width(c, widths[c]);
         }
     }
 
@@ -124,6 +140,7 @@ final class AgainstPlainTest {
         try {
             plain = new Plain(new PlainText(text));
             want = plain.lines();
+            told = text;
         } catch (PlainText.Fault met) {
             want = -10 - met.place;
             fault = met.number;
@@ -160,6 +177,7 @@ final class AgainstPlainTest {
     }
 
     private void event(int e) {
+        anew();
         int total = plain.total(e);
         due("whole", x.whole(10 + e), total);
         for (int l = NONE; l < plain.lines(); l++) {
@@ -211,6 +229,7 @@ final class AgainstPlainTest {
     // ---- counters
 
     private void counters() {
+        anew();
         if (below(4) != 0) {
             int k = 1 + below(4);
             due("counters", x.counters(k), plain.masks.length);
@@ -239,6 +258,7 @@ final class AgainstPlainTest {
     }
 
     private void slices() {
+        anew();
         for (int i = 0; i < 6; i++) {
             int events = 1 + below(255);
             List<Integer> rounds = plain.rounds(events);
@@ -269,6 +289,7 @@ final class AgainstPlainTest {
     // ---- samples
 
     private void samples() {
+        anew();
         for (int i = 0; i < 12; i++) {
             int e = below(8);
             int p = 1 + below(below(2) == 0 ? 30 : 1 + below(9999));
@@ -315,6 +336,7 @@ final class AgainstPlainTest {
     }
 
     private void runningOver() {
+        anew();
         for (int c = 0; c < plain.masks.length; c++) {
             for (int e = 0; e < 8; e++) {
                 boolean can = (plain.masks[c] >> e & 1) != 0;
@@ -337,7 +359,7 @@ final class AgainstPlainTest {
     // ---- wired wrong, sheets
 
     private void wired() {
-        x.forget();
+        anew();
         int c = below(plain.masks.length);
         int e = below(8);
         int other = below(8);
@@ -356,6 +378,7 @@ final class AgainstPlainTest {
     }
 
     private void sheets() {
+        anew();
         for (int i = 0; i < 5; i++) {
             int k = below(4);
             int lane = below(3);

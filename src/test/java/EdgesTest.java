@@ -36,6 +36,7 @@ final class EdgesTest {
         lanesBeginAnew();
         said();
         count();
+        theLastCall();
         Due.close();
     }
 
@@ -213,6 +214,11 @@ final class EdgesTest {
             due("of sixteen alike for " + share, alike.hot(0, share, 0), n);
             due("the least bits for " + share, alike.hot(0, share, 1), (1 << n) - 1);
         }
+        // 60 and 20 are two LINES; 60, 10 and 10 are three.
+        EventCounters two = Due.with("line 1 a10; line 1 a10; line 1 a20; line 1 a60;");
+        due("two are enough for 80", two.hot(0, 80, 0), 2);
+        due("these two", two.hot(0, 80, 1), 0b1100);
+        due("three for 81", two.hot(0, 81, 1), 0b1101);
         EventCounters last = Due.with("line1;".repeat(15) + "line1h1;");
         due("only the last makes it", last.hot(7, 1, 1), 1 << 15);
         due("never made", last.hot(6, 1, 0), NONE);
@@ -283,15 +289,17 @@ final class EdgesTest {
 
     private static void masksOfNothingAndOfAll() {
         EventCounters x = masked("line 1 a1;", 0, 0, 0, 0);
-        for (int set = 0; set < 256; set++) {
-            due("nothing goes", x.together(set), set == 0 ? 1 : 0);
-            due("no rounds", x.rounds(set, 0), set == 0 ? 0 : NONE);
-        }
         EventCounters y = masked("line 1 a1;", 255, 255, 255, 255);
         for (int set = 0; set < 256; set++) {
             int n = Integer.bitCount(set);
+            due("nothing goes", x.together(set), set == 0 ? 1 : 0);
             due("four go at most: " + set, y.together(set), n <= 4 ? 1 : 0);
-            due("rounds of " + set, y.rounds(set, 0), (n + 3) / 4);
+        }
+        EventCounters nothing = masked("line 1 a1;", 0, 0, 0, 0);
+        EventCounters all = masked("line 1 a1;", 255, 255, 255, 255);
+        for (int set = 0; set < 256; set++) {
+            due("no rounds", nothing.rounds(set, 0), set == 0 ? 0 : NONE);
+            due("rounds of " + set, all.rounds(set, 0), (Integer.bitCount(set) + 3) / 4);
         }
         due("a mask of the last event", masked("line 1 h1;", 128).goes(128, 7), 0);
     }
@@ -402,31 +410,30 @@ final class EdgesTest {
         due("one alone without ticks", x.finest(0b11, 21, 21, 1), NONE);
         due("the first of 200", x.finest(0b11, 20, 219, 1), 20);
         due("200 without ticks", x.finest(0b11, 800, 999, 1), NONE);
-        // b: at t 1 2 4 5 10 20 there are TICKS of its ROUND or not.
-        due("those without are left out", x.finest(0b11, 1, 200, 1), leastNear(x, 0b11, 1, 1, 200));
-        due("a", x.finest(0b11, 1, 200, 0), leastNear(x, 0b11, 0, 1, 200));
-        EventCounters y = masked("loop 40; line 3 a1; line 2 b2; line 5 a7 b1; end;", 255);
         for (int e = 0; e < 2; e++) {
-            due("up to 200", y.finest(0b11, 1, 200, e), leastNear(y, 0b11, e, 1, 200));
-            due("from 200", y.finest(0b11, 200, 399, e), leastNear(y, 0b11, e, 200, 399));
+            nearest("line 20 a1; line 1 a1 b1;", e, 1, 200);
+            nearest("loop 40; line 3 a1; line 2 b2; line 5 a7 b1; end;", e, 1, 200);
+            nearest("loop 40; line 3 a1; line 2 b2; line 5 a7 b1; end;", e, 200, 399);
         }
         due("the last one alone is near", masked("line 5 a1; line 5; line 5; line 5;", 255).finest(0b11, 3, 4, 0), 4);
     }
 
-    private static int leastNear(EventCounters x, int set, int e, int from, int to) {
+    /** What finest tells is what scaled tells for each t. */
+    private static void nearest(String text, int e, int from, int to) {
+        EventCounters x = masked(text, 255);
         int best = NONE;
         double near = 0;
         for (int t = from; t <= to; t++) {
-            long above = x.scaled(set, t, e, 2);
+            long above = x.scaled(0b11, t, e, 2);
             if (above != NONE_SCALED) {
-                double off = Math.abs((double) above / x.scaled(set, t, e, 3));
+                double off = Math.abs((double) above / x.scaled(0b11, t, e, 3));
                 if (best == NONE || off < near - 1e-9) {
                     best = t;
                     near = off;
                 }
             }
         }
-        return best;
+        due("from " + from + " to " + to + " the nearest", masked(text, 255).finest(0b11, from, to, e), best);
     }
 
     // ---- samples
@@ -500,6 +507,31 @@ final class EdgesTest {
         due("not all are lost", y.truest(0, 1, 200, 1), 1);
         // Each from 51 to 75 shows either LINE once.
         due("of two that are as far the least", y.truest(0, 51, 75, 0), 51);
+        for (int p : new int[] {1, 2, 3, 7, 11, 17, 29, 31, 60, 100, 200}) {
+            for (int k = 0; k <= 9; k++) {
+                leastFar(0, p, p + 199, k);
+                leastFar(1, p, p + 9, k);
+            }
+        }
+    }
+
+    /** What truest tells is what far tells for each period. */
+    private static void leastFar(int e, int from, int to, int k) {
+        String text = "line 1 b7; loop 9; line 1 a13 b2; loop 3; line 1 a5; end; end; line 1 a31 b40;";
+        EventCounters x = Due.with(text);
+        int best = NONE;
+        double near = 0;
+        for (int p = from; p <= to; p++) {
+            long above = x.far(e, p, 0, k, 0);
+            if (above != NONE) {
+                double far = (double) above / x.far(e, p, 0, k, 1);
+                if (best == NONE || far < near - 1e-12) {
+                    best = p;
+                    near = far;
+                }
+            }
+        }
+        due("from " + from + " to " + to + " skid " + k + " the truest", Due.with(text).truest(e, from, to, k), best);
     }
 
     /** Promise 28: "in how many times of THE PROGRAM it comes round to the same beginning" */
@@ -615,6 +647,10 @@ final class EdgesTest {
         due("another event is never made", y.seldom(0, 7), 999);
         y.width(0, 3);
         due("more is held", y.seldom(0, 1), 999);
+        // At 200, 201, 202: each of the three is alone only by 1, two of them are together in a later SLICE by 201.
+        EventCounters late = Due.with("loop 10; line 20; end; loop 3; line 1 a2; end;");
+        late.width(0, 2);
+        due("together in a later slice", late.seldom(0, 0), 1);
         EventCounters z = Due.with("loop 2; loop 30; line 20 a1; end; end;");
         z.width(0, 5);
         due("60 steps, 31 are held", z.seldom(0, 0), 620);
@@ -805,5 +841,24 @@ final class EdgesTest {
                 due("width " + c + " of " + k, x.count(20 + c), c < k ? 8 : BAD);
             }
         }
+    }
+
+    /** "An object is used for at most 512 calls": the last one of them answers as the first. */
+    private static void theLastCall() {
+        for (int made = 507; made <= 511; made++) {
+            EventCounters x = new EventCounters();
+            for (int i = 0; i < made; i++) {
+                due("call " + i, i % 2 == 0 ? x.feed(-1) : x.end(0), 8);
+            }
+            due("call " + made, x.count(3), made % 2 * 8);
+        }
+        // 507 calls and "line 1 a5;" in five.
+        EventCounters x = new EventCounters();
+        for (int i = 0; i < 507; i++) {
+            due("run or none to forget", x.forget(), 0);
+        }
+        Due.write(x, "line 1 a5;");
+        due("call 511", x.program(), 1);
+        due("call 512", x.whole(10), 5);
     }
 }
